@@ -40,6 +40,7 @@ public final class PromiseTest {
         ownRootAgain();
         ages();
         inTimeEdges();
+        nearEdges();
         turn();
         power();
         drift();
@@ -235,7 +236,9 @@ public final class PromiseTest {
         due("the slot after LATE", x.again(0), 80);
         x.wipe();
         type(x, "F2034n563n010k10");
-        x.turn(0);
+        x.period(1);
+        due("undoable before net", x.about(11), 1);
+        due("down before net", x.about(9), 1);
         due("net", x.net(), 2);
         int[] want = {2, 1, 20, 3, 4, 0, 3, 0, 0, 0, 0, 0, 1, 16};
         for (int what = 0; what <= 13; what++) {
@@ -490,6 +493,16 @@ public final class PromiseTest {
         due("line, period 4: number as node 1 had it", x.node(2, 5), 2);
         due("line, period 4: number of node 1", x.node(1, 5), 3);
         due("line, period 4: stamps of node 2", x.node(2, 8), 1);
+        // A new root empties the table of the old one.
+        x = read("F0820n400n400n400k01k12");
+        x.turn(0);
+        x.period(8);
+        due("torn: node 2", x.node(2, 4), 1);
+        due("torn: stamps", x.node(2, 8), 4);
+        x.turn(0);
+        x.period(3);
+        due("whole: node 2", x.node(2, 4), 0);
+        due("whole: stamps", x.node(2, 8), 1);
         // Over a link that is down, and to or from a node that is off, nothing goes.
         x = read(PAIR);
         x.turn(0);
@@ -638,6 +651,30 @@ public final class PromiseTest {
         due("-9 is not in time", x.about(8), 1);
     }
 
+    /** near() goes from -512 to 511. */
+    private static void nearEdges() {
+        TimeFlood x = read("F3210n400n400k01");
+        x.turn(0);
+        x.period(99);
+        x.period(99);
+        x.turn(0);
+        x.period(58);
+        x.drift(0, 4);
+        due("clock 512 ahead", x.node(0, 2), 512);
+        due("miss of -512", x.node(1, 10), 488);
+        x.drift(0, -4);
+        due("miss of -512 again", x.node(1, 10), 488);
+        x = read("F1610n400n400k01");
+        for (int i = 0; i < 5; i++) {
+            x.period(99);
+        }
+        x.period(16);
+        x.drift(0, 4);
+        due("miss of -511", x.node(1, 10), 489);
+        x.drift(0, -4);
+        due("miss of 511", x.node(1, 10), 1511);
+    }
+
     private static void turn() {
         TimeFlood x = read(LINE);
         due("turn(-1)", x.turn(-1), UNKNOWN);
@@ -666,11 +703,15 @@ public final class PromiseTest {
         for (int what = 0; what <= 10; what++) {
             due("on again: node(1, " + what + ")", x.node(1, what), want[what]);
         }
+        x.turn(0);
+        x.period(1);
+        due("heart before", x.node(1, 6), 1);
         x.power(1);
         x.drift(1, 3);
         x.power(1);
+        due("no heart", x.node(1, 6), 0);
         due("the drift stays", x.node(1, 0), 7);
-        due("acts", x.about(11), 6);
+        due("acts", x.about(11), 8);
         x.power(0);
         x.period(4);
         due("off nodes do nothing", x.node(0, 6), NONE);
@@ -735,6 +776,11 @@ public final class PromiseTest {
         x.seed(9L);
         x.turn(0);
         x.undo();
+        TimeFlood shy = read(SHY);
+        shy.period(3);
+        shy.period(1);
+        shy.undo();
+        due("guard back", shy.node(1, 7), 1);
         due("undo keeps observations", x.about(12), 1);
         due("undo keeps the seed", x.seed(0L), 9);
     }
@@ -815,6 +861,10 @@ public final class PromiseTest {
         due("1 period, root", x.judge(2, 101410L), 1);
         due("stamps", x.judge(4, 103612101613L), NONE);
         due("stamps, wrong", x.judge(4, 103612101614L), 3);
+        TimeFlood slow = read(PATIENT);
+        due("9 periods", slow.judge(2, 109500L), 1);
+        due("10 periods", slow.judge(3, 110410611L), NONE);
+        due("12 periods", slow.judge(3, 112410613L), NONE);
         due("the first of two wrong ones", x.judge(3, 103611614L), 1);
         due("turned", x.judge(3, 200109411L), NONE);
         due("turned twice", x.judge(4, 200200109411L), 3);
@@ -953,7 +1003,6 @@ public final class PromiseTest {
         due("off", x.share(1, true), LATE);
         due("off, lower", x.share(1, false), LATE);
         shareIs(x, 0, 1, 1);
-        // With patience 9 and a time of 12 periods, but a root only from period 10 on.
         shareIs(read(PATIENT), 1, 1, 1);
         x = read("F1960n155n844n956n716k02k12k23");
         x.period(14);
@@ -968,6 +1017,12 @@ public final class PromiseTest {
         shareIs(x, 1, 4, 3);
         shareIs(x, 3, 5, 6);
         shareIs(x, 4, 5, 6);
+        // After 11 or 13 periods all three nodes would be in time.
+        TimeFlood y = read("F2988n417n915n033k01k12");
+        y.period(6);
+        for (int i = 0; i < 3; i++) {
+            shareIs(y, i, 2, 3);
+        }
         // All shares sum up to the nodes that are in time 12 periods from now.
         int sum = 0;
         for (int i = 0; i < 5; i++) {
@@ -1034,11 +1089,12 @@ public final class PromiseTest {
         due("drawn(-1)", x.drawn(-1), BAD);
         due("seed after errors", x.seed(5L), -1);
         due("drawn before any root", x.drawn(9), 0);
+        due("drawn(1)", x.drawn(1), 0);
         long s = 5;
-        for (int i = 0; i < 9; i++) {
+        for (int i = 0; i < 10; i++) {
             s = next(s);
         }
-        due("seed after 9", x.seed(0L), s);
+        due("seed after 10", x.seed(0L), s);
         x.period(10);
         // Only a link that goes down in the first period and stays down loses node 1: see inTimeEdges().
         int[] seen = new int[4];

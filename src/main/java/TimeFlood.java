@@ -147,7 +147,7 @@ public final class TimeFlood {
         }
         journal.push(now);
         flood.passMany(now, n);
-        return flood.inTimeCount(now);
+        return Integer.bitCount(flood.inTimeSet(now));
     }
 
     public int turn(int link) {
@@ -319,7 +319,7 @@ public final class TimeFlood {
                 trial.flipLink(v % plan.linkCount);
             }
             flood.pass(trial);
-            sum += flood.inTimeCount(trial);
+            sum += Integer.bitCount(flood.inTimeSet(trial));
         }
         return sum;
     }
@@ -401,7 +401,7 @@ public final class TimeFlood {
         trial.copyFrom(now);
         trial.switchOffAllBut(come);
         flood.passMany(trial, SHARE_PERIODS);
-        return flood.inTimeCount(trial);
+        return Integer.bitCount(flood.inTimeSet(trial));
     }
 
     private boolean unitesWithout(int failing, int n) {
@@ -943,10 +943,6 @@ public final class TimeFlood {
                 }
             }
             return set;
-        }
-
-        int inTimeCount(State state) {
-            return Integer.bitCount(inTimeSet(state));
         }
 
         int property(State state, int at, int what) {

@@ -1,17 +1,29 @@
 /** Counts and prints the answers that are not as due. */
 final class Due {
     private static int wrong = 0;
+    private static int asked = 0;
+    private static String place = "";
 
     private Due() {
     }
 
+    /** What is told before every wrong answer from now on. */
+    static void in(String newPlace) {
+        place = newPlace;
+    }
+
     static void due(String what, long got, long want) {
+        asked++;
         if (got != want) {
             wrong++;
             if (wrong <= 40) {
-                System.out.println(what + " answered " + got + ", due is " + want);
+                System.out.println(place + what + " answered " + got + ", due is " + want);
             }
         }
+    }
+
+    static int asked() {
+        return asked;
     }
 
     static void end() {

@@ -20,7 +20,8 @@ public final class FaceTest {
         "int chance(int,int,boolean)", "long seed(long)", "int drawn(int)", "int keep(int)", "int again(int)"};
     private static final String[] FORBIDDEN = {"\\bthrow\\b", "\\bthrows\\b", "\\btry\\b", "\\bcatch\\b", "\\bassert\\b",
         "\\bsynchronized\\b", "\\bimport\\b", "\\bpackage\\b", "->", "::", "static\\s*\\{", "Exact\\b", "\\bSystem\\.(?!arraycopy)",
-        "\\bthis\\s*[,)]", "\\bwhile\\s*\\(true\\)", "\\bfor\\s*\\(;"};
+        "\\bthis\\s*[,)]", "\\bwhile\\s*\\(true\\)", "\\bfor\\s*\\(;", "\\bdouble\\b", "\\bfloat\\b", "\"\\s*\\+", "\\+\\s*\"",
+        "\\bnew\\s+\\w+\\[.*\\]\\[.*\\]\\[", "\\bObject\\b", "\\bRandom\\b"};
 
     private FaceTest() {
     }
@@ -80,6 +81,15 @@ public final class FaceTest {
         Due.due("constructor", made[0].getParameterCount() == 0 && Modifier.isPublic(made[0].getModifiers()) ? 1 : 0, 1);
     }
 
+    private static boolean isOfTheFace(String name) {
+        for (String method : METHODS) {
+            if (method.contains(" " + name + "(")) {
+                return true;
+            }
+        }
+        return false;
+    }
+
     private static boolean isLooseStatic(Member f) {
         return Modifier.isStatic(f.getModifiers()) && !Modifier.isFinal(f.getModifiers());
     }
@@ -98,11 +108,26 @@ public final class FaceTest {
             Due.due("fields of " + c, own <= 20 ? 1 : 0, 1);
             for (Method m : c.getDeclaredMethods()) {
                 Due.due("parameters of " + m, m.getParameterCount() <= 7 ? 1 : 0, 1);
+                boolean hidden = Modifier.isPrivate(m.getModifiers());
+                Due.due("private " + m, hidden && isOfTheFace(m.getName()) ? 1 : 0, 0);
             }
         }
     }
 
+    /** A method stands from a line that opens it, at one of two depths, to the brace that closes it there. */
+    private static void methodsAreShort(String text) {
+        Matcher m = Pattern.compile("(?m)^( {4}| {8})(?! )[\\w\\[\\] ]+\\([^;{]*\\) \\{\\n(.*\\n)*?\\1\\}$").matcher(text);
+        int found = 0;
+        while (m.find()) {
+            found++;
+            String first = m.group().substring(0, m.group().indexOf('\n')).trim();
+            Due.due("at most 60 lines: " + first, m.group().split("\n").length <= 60 ? 1 : 0, 1);
+        }
+        Due.due("methods that were found", found >= 25 ? 1 : 0, 1);
+    }
+
     private static void source(String text) {
+        methodsAreShort(text);
         String code = text.replaceAll("(?s)/\\*.*?\\*/", "").replaceAll("//[^\n]*", "");
         for (String word : FORBIDDEN) {
             Matcher m = Pattern.compile(word).matcher(code);

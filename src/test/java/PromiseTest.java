@@ -6,16 +6,8 @@ public final class PromiseTest {
             FULL = TimeFlood.FULL, NONE = TimeFlood.NONE;
     private static final int MIN = Integer.MIN_VALUE, MAX = Integer.MAX_VALUE;
 
-    // Two nodes; both claim the root in period 2, and node 1 follows node 0 at once.
-    private static final String PAIR = "F0810n400n410k01";
-    // The same with shyness 2: node 1 resists for two periods.
-    private static final String SHY = "F0812n400n410k01";
-    // Node 1 gains a tick in 16; a period is 16.
-    private static final String GAIN = "F1610n400n810k01";
-    // With patience 9 both claim the root in period 10.
-    private static final String PATIENT = "F0890n400n410k01";
-    private static final String LINE = "F0810n400n400n400k01k12";
-    private static final String TRIANGLE = "F0810n400n400n400k01k12k02";
+    private static final String PAIR = Given.PAIR, SHY = Given.SHY, GAIN = Given.GAIN, PATIENT = Given.PATIENT,
+            LINE = Given.LINE, TRIANGLE = Given.TRIANGLE;
 
     private PromiseTest() {
     }
@@ -63,30 +55,6 @@ public final class PromiseTest {
         Due.due(what, got, want);
     }
 
-    private static TimeFlood typed(String text) {
-        TimeFlood x = new TimeFlood();
-        type(x, text);
-        return x;
-    }
-
-    private static void type(TimeFlood x, String text) {
-        for (char c : text.toCharArray()) {
-            x.write(c);
-        }
-    }
-
-    private static TimeFlood read(String text) {
-        TimeFlood x = typed(text);
-        due("net() of " + text, x.net() >= 0 ? 1 : 0, 1);
-        return x;
-    }
-
-    private static void reread(TimeFlood x, String text) {
-        x.wipe();
-        type(x, text);
-        x.net();
-    }
-
     private static void newObject() {
         TimeFlood x = new TimeFlood();
         int[] first = {0, 0, 8, 1, 0, 0, 0, 0, 0, 0, 1, 0, 0, 0};
@@ -122,13 +90,13 @@ public final class PromiseTest {
         due("BAD before FULL", x.write(256), BAD);
         due("full length", x.about(13), 60);
         // Letters must not be cut to fewer bits on the way.
-        x = typed(PAIR.substring(0, 5));
+        x = Given.typed(PAIR.substring(0, 5));
         x.write('n' + 128);
         due("fault of a high letter", x.fault(), 5);
     }
 
     private static void wipe() {
-        TimeFlood x = typed(PAIR);
+        TimeFlood x = Given.typed(PAIR);
         due("net", x.net(), 2);
         due("wipe", x.wipe(), 16);
         due("wipe again", x.wipe(), 0);
@@ -141,7 +109,7 @@ public final class PromiseTest {
     }
 
     private static void faultIs(String text, int want) {
-        due("fault of " + text, typed(text).fault(), want);
+        due("fault of " + text, Given.typed(text).fault(), want);
     }
 
     private static void fault() {
@@ -221,7 +189,7 @@ public final class PromiseTest {
     }
 
     private static void net() {
-        TimeFlood x = read(GAIN);
+        TimeFlood x = Given.read(GAIN);
         x.period(5);
         x.turn(0);
         x.power(1);
@@ -235,7 +203,7 @@ public final class PromiseTest {
         due("undoable after LATE", x.about(11), 4);
         due("the slot after LATE", x.again(0), 80);
         x.wipe();
-        type(x, "F2034n563n010k10");
+        Given.type(x, "F2034n563n010k10");
         x.period(1);
         due("undoable before net", x.about(11), 1);
         due("down before net", x.about(9), 1);
@@ -259,7 +227,7 @@ public final class PromiseTest {
         due("drift once more", x.node(0, 0), 5);
         due("root once more", x.node(0, 4), NONE);
         due("number once more", x.node(0, 5), 0);
-        reread(x, "F3290");
+        Given.reread(x, "F3290");
         due("no nodes", x.about(0), 0);
         due("no links", x.about(1), 0);
         due("none on", x.about(6), 0);
@@ -269,7 +237,7 @@ public final class PromiseTest {
     }
 
     private static void about() {
-        TimeFlood x = read(SHY);
+        TimeFlood x = Given.read(SHY);
         due("about(-1)", x.about(-1), BAD);
         due("about(14)", x.about(14), BAD);
         due("about(MIN)", x.about(MIN), BAD);
@@ -304,13 +272,13 @@ public final class PromiseTest {
         due("length", x.about(13), 16);
         x.power(0);
         due("not united again", x.about(10), 0);
-        x = read(LINE);
+        x = Given.read(LINE);
         x.turn(1);
         due("the set of down links", x.about(9), 2);
     }
 
     private static void nodeValues() {
-        TimeFlood x = read("F3211n063n901n400k01k12");
+        TimeFlood x = Given.read("F3211n063n901n400k01k12");
         due("node(-1, 0)", x.node(-1, 0), UNKNOWN);
         due("node(3, 0)", x.node(3, 0), UNKNOWN);
         due("node(MAX, 0)", x.node(MAX, 0), UNKNOWN);
@@ -344,14 +312,14 @@ public final class PromiseTest {
             due("off: node(1, " + what + ")", x.node(1, what), off[what]);
         }
         due("off: BAD before NONE", x.node(1, 11), BAD);
-        x = read("F0810n300");
+        x = Given.read("F0810n300");
         x.period(1);
         // -8 / 64 rounded down is -1, not 0
         due("the clock is rounded down", x.node(0, 2), 7);
     }
 
     private static void estimates() {
-        TimeFlood x = read(GAIN);
+        TimeFlood x = Given.read(GAIN);
         due("in time at 32", x.period(2), 2);
         due("estimate by one stamp", x.node(1, 9), 32);
         x.turn(0);
@@ -359,7 +327,7 @@ public final class PromiseTest {
         // clock 211, stamp (194, 32): 211 + 32 - 194 = 49
         due("estimate by one stamp, later", x.node(1, 9), 49);
         due("miss", x.node(1, 10), 1001);
-        x = read(GAIN);
+        x = Given.read(GAIN);
         x.period(4);
         due("clock", x.node(1, 2), 228);
         due("estimate by three stamps", x.node(1, 9), 64);
@@ -383,7 +351,7 @@ public final class PromiseTest {
     /** Two stamps of one period: E is 0, and the mean of y is rounded down. */
     private static void sameClocks() {
         // Node 3 hears node 1, which lags, and then node 2 in one period.
-        TimeFlood x = read("F3210n400n900n400n400k02k21k13k23");
+        TimeFlood x = Given.read("F3210n400n900n400n400k02k21k13k23");
         x.turn(2);
         x.turn(3);
         x.period(20);
@@ -404,7 +372,7 @@ public final class PromiseTest {
     }
 
     private static void stamp() {
-        TimeFlood x = read(PAIR);
+        TimeFlood x = Given.read(PAIR);
         due("stamp(2, 0, 0)", x.stamp(2, 0, 0), UNKNOWN);
         due("stamp(-1, 0, 0)", x.stamp(-1, 0, 0), UNKNOWN);
         due("UNKNOWN before BAD", x.stamp(2, 0, 3), UNKNOWN);
@@ -437,7 +405,7 @@ public final class PromiseTest {
     }
 
     private static void link() {
-        TimeFlood x = read("F0810n400n400n400k10k21");
+        TimeFlood x = Given.read("F0810n400n400n400k10k21");
         due("link(-1, 0)", x.link(-1, 0), UNKNOWN);
         due("link(2, 0)", x.link(2, 0), UNKNOWN);
         due("UNKNOWN before BAD", x.link(2, 3), UNKNOWN);
@@ -454,7 +422,7 @@ public final class PromiseTest {
     }
 
     private static void periodErrors() {
-        TimeFlood x = read(PAIR);
+        TimeFlood x = Given.read(PAIR);
         due("period(0)", x.period(0), BAD);
         due("period(100)", x.period(100), BAD);
         due("period(-1)", x.period(-1), BAD);
@@ -467,7 +435,7 @@ public final class PromiseTest {
     }
 
     private static void periodOfPair() {
-        TimeFlood x = read(PAIR);
+        TimeFlood x = Given.read(PAIR);
         due("period 1", x.period(1), 0);
         due("heart 1", x.node(1, 6), 1);
         due("period 2", x.period(1), 2);
@@ -480,7 +448,7 @@ public final class PromiseTest {
         due("number 2", x.node(1, 5), 2);
         due("stamps", x.node(1, 8), 2);
         // In a line node 2 hears only what node 1 sends, which is not before node 1 has 2 stamps.
-        x = read(LINE);
+        x = Given.read(LINE);
         x.period(2);
         due("line, period 2: node 1", x.node(1, 4), 0);
         due("line, period 2: node 2", x.node(2, 4), 1);
@@ -494,7 +462,7 @@ public final class PromiseTest {
         due("line, period 4: number of node 1", x.node(1, 5), 3);
         due("line, period 4: stamps of node 2", x.node(2, 8), 1);
         // A new root empties the table of the old one.
-        x = read("F0820n400n400n400k01k12");
+        x = Given.read("F0820n400n400n400k01k12");
         x.turn(0);
         x.period(8);
         due("torn: node 2", x.node(2, 4), 1);
@@ -504,11 +472,11 @@ public final class PromiseTest {
         due("whole: node 2", x.node(2, 4), 0);
         due("whole: stamps", x.node(2, 8), 1);
         // Over a link that is down, and to or from a node that is off, nothing goes.
-        x = read(PAIR);
+        x = Given.read(PAIR);
         x.turn(0);
         x.period(9);
         due("down link: node 1", x.node(1, 4), 1);
-        x = read(LINE);
+        x = Given.read(LINE);
         x.power(1);
         x.period(9);
         due("off between: node 2", x.node(2, 4), 2);
@@ -517,7 +485,7 @@ public final class PromiseTest {
     }
 
     private static void guards() {
-        TimeFlood x = read(SHY);
+        TimeFlood x = Given.read(SHY);
         int[] guard = {2, 1, 0};
         int[] root = {1, 1, 0};
         x.period(1);
@@ -534,7 +502,7 @@ public final class PromiseTest {
     }
 
     private static void numbers() {
-        TimeFlood x = read(PAIR);
+        TimeFlood x = Given.read(PAIR);
         x.period(64);
         due("number of the root", x.node(0, 5), 63);
         due("number of the follower", x.node(1, 5), 63);
@@ -543,7 +511,7 @@ public final class PromiseTest {
         due("0 is news after 63", x.node(1, 5), 0);
         due("heart of the follower", x.node(1, 6), 0);
         // A node that claims the root goes on from the number it had, also from 63.
-        x = read(PAIR);
+        x = Given.read(PAIR);
         x.period(64);
         x.turn(0);
         x.period(1);
@@ -557,7 +525,7 @@ public final class PromiseTest {
     /** News is 1 to 31 ahead, modulo 64: root 0 starts anew, while node 1 still has an old number. */
     private static void staleNumbers() {
         for (int k = 34; k <= 35; k++) {
-            TimeFlood x = read("F0810n400n400n400k02k21k01");
+            TimeFlood x = Given.read("F0810n400n400n400k02k21k01");
             x.turn(2);
             x.period(k);
             due("number of node 1", x.node(1, 5), k - 2);
@@ -577,7 +545,7 @@ public final class PromiseTest {
     }
 
     private static void ownRootAgain() {
-        TimeFlood x = read(PAIR);
+        TimeFlood x = Given.read(PAIR);
         x.period(5);
         x.power(0);
         x.power(0);
@@ -602,7 +570,7 @@ public final class PromiseTest {
     }
 
     private static void ages() {
-        TimeFlood x = read(PATIENT);
+        TimeFlood x = Given.read(PATIENT);
         x.period(9);
         due("patience 9: no root", x.node(0, 4), NONE);
         due("patience 9: heart", x.node(0, 6), 9);
@@ -627,14 +595,14 @@ public final class PromiseTest {
         int[][] cases = {{3, 2, 1003, 2}, {3, 3, 1004, 1}, {-3, 2, 997, 2}, {-3, 3, 995, 1},
             {4, 1, 1002, 2}, {4, 2, 1004, 1}, {-4, 2, 996, 1}, {5, 2, 1005, 1}};
         for (int[] c : cases) {
-            TimeFlood x = read("F3290n400n" + (c[0] + 4) + "00k01");
+            TimeFlood x = Given.read("F3290n400n" + (c[0] + 4) + "00k01");
             x.period(10);
             x.turn(0);
             due("in time, drift " + c[0] + " after " + c[1], x.period(c[1]), c[3]);
             due("miss, drift " + c[0] + " after " + c[1], x.node(1, 10), c[2]);
             due("set, drift " + c[0] + " after " + c[1], x.about(8), c[3] == 2 ? 3 : 1);
         }
-        TimeFlood x = read("F3290n400n000k01");
+        TimeFlood x = Given.read("F3290n400n000k01");
         x.period(10);
         x.turn(0);
         x.period(4);
@@ -642,7 +610,7 @@ public final class PromiseTest {
         x.power(0);
         due("miss of a root that is off", x.node(1, 10), 992);
         // A miss of -9 is a miss and not NONE.
-        x = read("F1890n400n000k01");
+        x = Given.read("F1890n400n000k01");
         x.period(10);
         x.turn(0);
         x.period(8);
@@ -653,7 +621,7 @@ public final class PromiseTest {
 
     /** near() goes from -512 to 511. */
     private static void nearEdges() {
-        TimeFlood x = read("F3210n400n400k01");
+        TimeFlood x = Given.read("F3210n400n400k01");
         x.turn(0);
         x.period(99);
         x.period(99);
@@ -664,7 +632,7 @@ public final class PromiseTest {
         due("miss of -512", x.node(1, 10), 488);
         x.drift(0, -4);
         due("miss of -512 again", x.node(1, 10), 488);
-        x = read("F1610n400n400k01");
+        x = Given.read("F1610n400n400k01");
         for (int i = 0; i < 5; i++) {
             x.period(99);
         }
@@ -676,7 +644,7 @@ public final class PromiseTest {
     }
 
     private static void turn() {
-        TimeFlood x = read(LINE);
+        TimeFlood x = Given.read(LINE);
         due("turn(-1)", x.turn(-1), UNKNOWN);
         due("turn(2)", x.turn(2), UNKNOWN);
         due("turn(MIN)", x.turn(MIN), UNKNOWN);
@@ -690,7 +658,7 @@ public final class PromiseTest {
     }
 
     private static void power() {
-        TimeFlood x = read(SHY);
+        TimeFlood x = Given.read(SHY);
         due("power(-1)", x.power(-1), UNKNOWN);
         due("power(2)", x.power(2), UNKNOWN);
         due("acts after errors", x.about(11), 0);
@@ -720,7 +688,7 @@ public final class PromiseTest {
     }
 
     private static void drift() {
-        TimeFlood x = read("F3210n460n401");
+        TimeFlood x = Given.read("F3210n460n401");
         x.period(4);
         due("drift(-1, 0)", x.drift(-1, 0), UNKNOWN);
         due("drift(2, 0)", x.drift(2, 0), UNKNOWN);
@@ -741,7 +709,7 @@ public final class PromiseTest {
     }
 
     private static void undo() {
-        TimeFlood x = read(GAIN);
+        TimeFlood x = Given.read(GAIN);
         due("nothing", x.undo(), LATE);
         x.period(7);
         x.turn(0);
@@ -776,7 +744,7 @@ public final class PromiseTest {
         x.seed(9L);
         x.turn(0);
         x.undo();
-        TimeFlood shy = read(SHY);
+        TimeFlood shy = Given.read(SHY);
         shy.period(3);
         shy.period(1);
         shy.undo();
@@ -786,7 +754,7 @@ public final class PromiseTest {
     }
 
     private static void ahead() {
-        TimeFlood x = read(GAIN);
+        TimeFlood x = Given.read(GAIN);
         due("ahead(0, 2, 2)", x.ahead(0, 2, 2), UNKNOWN);
         due("ahead(0, -1, 2)", x.ahead(0, -1, 2), UNKNOWN);
         due("UNKNOWN before BAD", x.ahead(100, 2, 1), UNKNOWN);
@@ -818,14 +786,14 @@ public final class PromiseTest {
     }
 
     private static void agree() {
-        due("pair", read(PAIR).agree(), 2);
-        due("shy pair", read(SHY).agree(), 4);
-        due("patient pair", read(PATIENT).agree(), 10);
-        due("line", read(LINE).agree(), 4);
-        due("two apart", read("F0810n400n400").agree(), NONE);
-        due("one", read("F0890n400").agree(), 10);
-        due("no node", read("F0810").agree(), 0);
-        TimeFlood x = read(LINE);
+        due("pair", Given.read(PAIR).agree(), 2);
+        due("shy pair", Given.read(SHY).agree(), 4);
+        due("patient pair", Given.read(PATIENT).agree(), 10);
+        due("line", Given.read(LINE).agree(), 4);
+        due("two apart", Given.read("F0810n400n400").agree(), NONE);
+        due("one", Given.read("F0890n400").agree(), 10);
+        due("no node", Given.read("F0810").agree(), 0);
+        TimeFlood x = Given.read(LINE);
         x.period(3);
         due("line after 3", x.agree(), 1);
         due("time stays", x.about(5), 24);
@@ -838,11 +806,11 @@ public final class PromiseTest {
         due("torn", x.agree(), NONE);
         x.power(0);
         due("torn from a node that is off", x.agree(), 0);
-        due("long", read("F0819n400n400k01").agree(), 11);
+        due("long", Given.read("F0819n400n400k01").agree(), 11);
     }
 
     private static void judge() {
-        TimeFlood x = read(PAIR);
+        TimeFlood x = Given.read(PAIR);
         due("judge(0, 0)", x.judge(0, 0L), BAD);
         due("judge(5, 101)", x.judge(5, 101L), BAD);
         due("judge(-1, 0)", x.judge(-1, 0L), BAD);
@@ -861,7 +829,7 @@ public final class PromiseTest {
         due("1 period, root", x.judge(2, 101410L), 1);
         due("stamps", x.judge(4, 103612101613L), NONE);
         due("stamps, wrong", x.judge(4, 103612101614L), 3);
-        TimeFlood slow = read(PATIENT);
+        TimeFlood slow = Given.read(PATIENT);
         due("9 periods", slow.judge(2, 109500L), 1);
         due("10 periods", slow.judge(3, 110410611L), NONE);
         due("12 periods", slow.judge(3, 112410613L), NONE);
@@ -883,7 +851,7 @@ public final class PromiseTest {
     }
 
     private static void judgeForms() {
-        TimeFlood x = read(PAIR);
+        TimeFlood x = Given.read(PAIR);
         x.period(4);
         int[] wrong = {0, 1, 9, 99, 100, 201, 202, 209, 210, 290, 302, 310, 311, 390, 402, 412, 420, 421, 440,
             499, 502, 510, 511, 520, 620, 623, 614, 619, 601, 700, 710, 800, 900, 999};
@@ -894,7 +862,7 @@ public final class PromiseTest {
         for (int s : wrong) {
             due("judge(1, " + s + ")", x.judge(1, s), 0);
         }
-        TimeFlood alone = read("F0810n400");
+        TimeFlood alone = Given.read("F0810n400");
         due("no links", alone.judge(1, 200L), 0);
         due("no node 1", alone.judge(1, 301L), 0);
         due("no root is not a node", alone.judge(1, 400L), 0);
@@ -902,7 +870,7 @@ public final class PromiseTest {
     }
 
     private static void see() {
-        TimeFlood x = read(PAIR);
+        TimeFlood x = Given.read(PAIR);
         due("see(2, 0, 0)", x.see(2, 0, 0), UNKNOWN);
         due("see(-1, 0, 0)", x.see(-1, 0, 0), UNKNOWN);
         due("UNKNOWN before BAD", x.see(2, 21, 7), UNKNOWN);
@@ -930,7 +898,7 @@ public final class PromiseTest {
     }
 
     private static void which() {
-        TimeFlood x = read(LINE);
+        TimeFlood x = Given.read(LINE);
         due("nothing seen", x.which(), 7);
         x.see(0, 0, NONE);
         due("no roots at first", x.which(), 7);
@@ -963,28 +931,28 @@ public final class PromiseTest {
         due("after 4", x.which(), 3);
         due("nothing changes", x.about(6), 7);
         due("nothing changes in time", x.about(5), 32);
-        x = read("F0810");
+        x = Given.read("F0810");
         due("no nodes", x.which(), 0);
     }
 
     private static void whichAfterNet() {
-        TimeFlood x = read(LINE);
+        TimeFlood x = Given.read(LINE);
         x.see(2, 20, 0);
         x.see(2, 20, 1);
-        reread(x, PAIR);
+        Given.reread(x, PAIR);
         due("observations of a node that is gone", x.which(), 3);
         due("they are still there", x.about(12), 2);
-        reread(x, LINE);
+        Given.reread(x, LINE);
         due("back again", x.which(), 0);
         x.unsee();
         x.see(0, 0, 2);
-        reread(x, PAIR);
+        Given.reread(x, PAIR);
         due("a root that is gone", x.which(), 0);
         x.unsee();
         due("without it", x.which(), 3);
-        reread(x, LINE);
+        Given.reread(x, LINE);
         x.see(2, 0, 2);
-        reread(x, PAIR);
+        Given.reread(x, PAIR);
         due("both gone", x.which(), 3);
     }
 
@@ -994,7 +962,7 @@ public final class PromiseTest {
     }
 
     private static void share() {
-        TimeFlood x = read(PAIR);
+        TimeFlood x = Given.read(PAIR);
         due("share(2, true)", x.share(2, true), UNKNOWN);
         due("share(-1, false)", x.share(-1, false), UNKNOWN);
         shareIs(x, 0, 1, 1);
@@ -1003,8 +971,8 @@ public final class PromiseTest {
         due("off", x.share(1, true), LATE);
         due("off, lower", x.share(1, false), LATE);
         shareIs(x, 0, 1, 1);
-        shareIs(read(PATIENT), 1, 1, 1);
-        x = read("F1960n155n844n956n716k02k12k23");
+        shareIs(Given.read(PATIENT), 1, 1, 1);
+        x = Given.read("F1960n155n844n956n716k02k12k23");
         x.period(14);
         shareIs(x, 0, 17, 12);
         shareIs(x, 1, 11, 12);
@@ -1012,13 +980,13 @@ public final class PromiseTest {
         shareIs(x, 3, 11, 12);
         due("time stays", x.about(5), 14 * 19);
         due("nodes stay", x.about(6), 15);
-        x = read("F3080n513n128n127n533n344k34k01k13k02");
+        x = Given.read("F3080n513n128n127n533n344k34k01k13k02");
         x.period(25);
         shareIs(x, 1, 4, 3);
         shareIs(x, 3, 5, 6);
         shareIs(x, 4, 5, 6);
         // After 11 or 13 periods all three nodes would be in time.
-        TimeFlood y = read("F2988n417n915n033k01k12");
+        TimeFlood y = Given.read("F2988n417n915n033k01k12");
         y.period(6);
         for (int i = 0; i < 3; i++) {
             shareIs(y, i, 2, 3);
@@ -1038,7 +1006,7 @@ public final class PromiseTest {
     }
 
     private static void chance() {
-        TimeFlood x = read(PAIR);
+        TimeFlood x = Given.read(PAIR);
         due("chance(-1, 0)", x.chance(-1, 0, true), BAD);
         due("chance(21, 0)", x.chance(21, 0, true), BAD);
         due("chance(0, -1)", x.chance(0, -1, false), BAD);
@@ -1050,9 +1018,9 @@ public final class PromiseTest {
         chanceIs(x, 2, 0, 1, 1);
         chanceIs(x, 2, 10, 0, 1);
         chanceIs(x, 2, 5, 1, 2);
-        chanceIs(read(SHY), 3, 5, 0, 1);
-        chanceIs(read(SHY), 4, 4, 3, 5);
-        x = read(LINE);
+        chanceIs(Given.read(SHY), 3, 5, 0, 1);
+        chanceIs(Given.read(SHY), 4, 4, 3, 5);
+        x = Given.read(LINE);
         chanceIs(x, 3, 5, 0, 1);
         chanceIs(x, 4, 5, 1, 4);
         chanceIs(x, 4, 2, 16, 25);
@@ -1064,7 +1032,7 @@ public final class PromiseTest {
         chanceIs(x, 4, 2, 1, 1);
         due("links stay", x.about(9), 1);
         // Two of three links will do.
-        x = read(TRIANGLE);
+        x = Given.read(TRIANGLE);
         chanceIs(x, 12, 5, 1, 2);
         chanceIs(x, 12, 1, 243, 250);
         chanceIs(x, 12, 7, 27, 125);
@@ -1080,7 +1048,7 @@ public final class PromiseTest {
     }
 
     private static void seedAndDrawn() {
-        TimeFlood x = read("F3290n400n900k01");
+        TimeFlood x = Given.read("F3290n400n900k01");
         due("first seed", x.seed(Long.MIN_VALUE), 0);
         due("second seed", x.seed(Long.MAX_VALUE), Long.MIN_VALUE);
         due("third seed", x.seed(-1L), Long.MAX_VALUE);
@@ -1110,7 +1078,7 @@ public final class PromiseTest {
         due("time stays", x.about(5), 320);
         due("links stay", x.about(9), 0);
         due("acts stay", x.about(11), 1);
-        TimeFlood alone = read("F0810n400");
+        TimeFlood alone = Given.read("F0810n400");
         alone.period(2);
         due("without links", alone.drawn(20), 20);
         due("the seed still moves", alone.seed(0L) == 0L ? 1 : 0, 0);
@@ -1118,7 +1086,7 @@ public final class PromiseTest {
     }
 
     private static void slots() {
-        TimeFlood x = read(GAIN);
+        TimeFlood x = Given.read(GAIN);
         due("keep(-1)", x.keep(-1), UNKNOWN);
         due("keep(2)", x.keep(2), UNKNOWN);
         due("again(-1)", x.again(-1), UNKNOWN);

@@ -177,6 +177,11 @@ final class TextSentences {
         goesOnWith(FIVE + "k40k30k20k10k12k13k", "1234");
         goesOnWith(FIVE + "k01k02k03k12k13k23k", "01234");
         goesOnWith(FIVE + "k01k02k03k12k13k23k0", "4");
+        // Only the first node is left for both others, or only the last one.
+        goesOnWith(HEAD + "n000n000n000k12k", "012");
+        goesOnWith(HEAD + "n000n000n000k12k2", "0");
+        goesOnWith(HEAD + "n000n000n000k01k", "012");
+        goesOnWith(HEAD + "n000n000n000k01k0", "2");
     }
 
     @Says(in = "The text", value = "a second digit if both nodes are the same or have a link")

@@ -3,26 +3,16 @@ import java.lang.reflect.Field;
 import java.lang.reflect.Member;
 import java.lang.reflect.Method;
 import java.lang.reflect.Modifier;
-import java.nio.charset.StandardCharsets;
-import java.nio.file.Files;
-import java.nio.file.Path;
 import java.util.Arrays;
 import java.util.TreeSet;
-import java.util.regex.Matcher;
-import java.util.regex.Pattern;
 
-/** The public face as the document has it, and the rules of LANGUAGE.md that can be looked up in the source. */
+/** The public face as the document has it, and what rule 1 of LANGUAGE.md says of it. */
 public final class FaceTest {
     private static final String[] METHODS = {"int write(int)", "int wipe()", "int fault()", "int net()", "int about(int)",
         "int node(int,int)", "int stamp(int,int,int)", "int link(int,int)", "int period(int)", "int turn(int)",
         "int power(int)", "int drift(int,int)", "int undo()", "int ahead(int,int,int)", "int agree()",
         "int judge(int,long)", "int see(int,int,int)", "int unsee()", "int which()", "int share(int,boolean)",
         "int chance(int,int,boolean)", "long seed(long)", "int drawn(int)", "int keep(int)", "int again(int)"};
-    private static final String[] FORBIDDEN = {"\\bthrow\\b", "\\bthrows\\b", "\\btry\\b", "\\bcatch\\b", "\\bassert\\b",
-        "\\bsynchronized\\b", "\\bimport\\b", "\\bpackage\\b", "->", "::", "static\\s*\\{", "Exact\\b", "\\bSystem\\.(?!arraycopy)",
-        "\\bthis\\s*[,)]", "\\bwhile\\s*\\(true\\)", "\\bfor\\s*\\(;", "\\bdouble\\b", "\\bfloat\\b", "\"\\s*\\+", "\\+\\s*\"",
-        "\\bnew\\s+\\w+\\[.*\\]\\[.*\\]\\[", "\\bObject\\b", "\\bRandom\\b"};
-
     private FaceTest() {
     }
 
@@ -30,9 +20,6 @@ public final class FaceTest {
         constants();
         members();
         classesInside();
-        if (args.length > 0) {
-            source(Files.readString(Path.of(args[0]), StandardCharsets.US_ASCII));
-        }
         Due.end();
     }
 
@@ -111,27 +98,6 @@ public final class FaceTest {
                 boolean hidden = Modifier.isPrivate(m.getModifiers());
                 Due.due("private " + m, hidden && isOfTheFace(m.getName()) ? 1 : 0, 0);
             }
-        }
-    }
-
-    /** A method stands from a line that opens it, at one of two depths, to the brace that closes it there. */
-    private static void methodsAreShort(String text) {
-        Matcher m = Pattern.compile("(?m)^( {4}| {8})(?! )[\\w\\[\\] ]+\\([^;{]*\\) \\{\\n(.*\\n)*?\\1\\}$").matcher(text);
-        int found = 0;
-        while (m.find()) {
-            found++;
-            String first = m.group().substring(0, m.group().indexOf('\n')).trim();
-            Due.due("at most 60 lines: " + first, m.group().split("\n").length <= 60 ? 1 : 0, 1);
-        }
-        Due.due("methods that were found", found >= 25 ? 1 : 0, 1);
-    }
-
-    private static void source(String text) {
-        methodsAreShort(text);
-        String code = text.replaceAll("(?s)/\\*.*?\\*/", "").replaceAll("//[^\n]*", "");
-        for (String word : FORBIDDEN) {
-            Matcher m = Pattern.compile(word).matcher(code);
-            Due.due("uses of " + word, m.find() ? 1 : 0, 0);
         }
     }
 }

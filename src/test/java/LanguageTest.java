@@ -68,10 +68,9 @@ public final class LanguageTest {
                 + "final int[][] b = new int[2][2]; static final class C { final long d = 1L; } final C c = new C(); "
                 + "public int p(long x) { for (int i = 0; i < 2; i++) { b[i][0] = A[0]; } "
                 + "return (int) Math.floorMod(x + c.d, 7L); } }").size(), 0);
-        if (args.length > 0) {
-            for (String broken : Rules.brokenBy(Files.readString(Path.of(args[0]), StandardCharsets.US_ASCII))) {
-                Due.due(broken, 1, 0);
-            }
+        Path source = Path.of(args.length > 0 ? args[0] : "src/main/java/TimeFlood.java");
+        for (String broken : Rules.brokenBy(Files.readString(source, StandardCharsets.US_ASCII))) {
+            Due.due(broken, 1, 0);
         }
         Due.end();
     }
